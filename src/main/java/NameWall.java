@@ -97,7 +97,9 @@ public final class NameWall {
 
     public int text(int sort) {
         if (sort == 0 && cityReader.read(tape, draft) == NONE) {
-            return takeCity();
+            cityReader.read(tape, wall.city);
+            beginCity();
+            return wall.city.names;
         }
         if (sort == 1 && wall.laws.count < MOST_LAWS && lawReader.read(tape) == NONE) {
             tape.length = 0;
@@ -106,13 +108,11 @@ public final class NameWall {
         return NONE;
     }
 
-    private int takeCity() {
-        cityReader.read(tape, wall.city);
+    private void beginCity() {
         tape.length = 0;
         wall.now.begin(wall.city);
         past.clear();
         dents.count = 0;
-        return wall.city.names;
     }
 
     public int square(int what) {
@@ -199,20 +199,13 @@ public final class NameWall {
         }
         for (int i = 0; i < n; i++) {
             past.remember(wall.now);
-            passEvening();
+            wall.passEvening(past);
         }
         return wall.now.day;
     }
 
     private boolean cannotPass(int days) {
         return hasNoCity() || isOutside(days, 1, MOST_EVENINGS) || wall.now.day + days > LAST_DAY;
-    }
-
-    private void passEvening() {
-        int heard = wall.heard();
-        int gone = wall.wear(heard);
-        past.write(wall.now, gone, Integer.bitCount(heard), wall.depths());
-        wall.now.dawn();
     }
 
     public boolean fogs(int v) {
@@ -240,7 +233,7 @@ public final class NameWall {
             past.remember(wall.now);
             drawWeather();
             drawShouts();
-            passEvening();
+            wall.passEvening(past);
         }
         return wall.now.day;
     }
@@ -593,16 +586,12 @@ public final class NameWall {
             }
         }
 
-        private int here() {
-            return at >= 0 && at < length && at < signs.length ? signs[at] : NO_SIGN;
-        }
-
         /** The next sign that is no blank; the place is at it then. */
         int sign() {
-            for (int i = 0; i < MOST_BYTES && here() == ' '; i++) {
+            for (int i = 0; i < MOST_BYTES && at < length && signs[at] == ' '; i++) {
                 at++;
             }
-            return here();
+            return at < length ? signs[at] : NO_SIGN;
         }
 
         boolean takes(int sign) {
@@ -613,21 +602,25 @@ public final class NameWall {
             return is;
         }
 
-        /** NONE: no number, or one of too many digits; the place is at the byte that is wrong then. */
-        int number(int mostDigits) {
+        /** The number at the place. NONE: none, of too many digits, out of bounds; the place is at the wrong byte then. */
+        int number(int mostDigits, int low, int high) {
             int number = NONE;
-            sign();
             for (int digits = 0; digits <= mostDigits; digits++) {
-                int digit = here() - '0';
+                int digit = at < length ? signs[at] - '0' : NONE;
                 if (isOutside(digit, 0, 9)) {
-                    return number;
+                    break;
                 }
-                if (digits < mostDigits) {
-                    number = digits == 0 ? digit : number * 10 + digit;
-                    at++;
+                if (digits == mostDigits) {
+                    return NONE;
                 }
+                number = digits == 0 ? digit : number * 10 + digit;
+                at++;
             }
-            return NONE;
+            if (number != NONE && isOutside(number, low, high)) {
+                at--;
+                return NONE;
+            }
+            return number;
         }
     }
 
@@ -767,21 +760,13 @@ public final class NameWall {
                 }
                 told |= 1 << item;
                 tape.at++;
-                row[item] = readNumber(tape, low[item], high[item]);
+                tape.sign();
+                row[item] = tape.number(2, low[item], high[item]);
                 if (row[item] == NONE) {
                     return false;
                 }
             }
             return true;
-        }
-
-        private int readNumber(Tape tape, int low, int high) {
-            int number = tape.number(2);
-            if (number != NONE && isOutside(number, low, high)) {
-                tape.at--;
-                return NONE;
-            }
-            return number;
         }
     }
 
@@ -856,27 +841,20 @@ public final class NameWall {
 
         private boolean readUnit(Tape tape, int nested) {
             int sign = tape.sign();
-            if (sign != '!' && sign != '(') {
-                return readComparison(tape, nested);
+            if (sign == '!' || sign == '(') {
+                if (nested >= MOST_NESTED) {
+                    return false;
+                }
+                tape.at++;
+                if (sign == '!') {
+                    return readUnit(tape, nested + 1) && put(-'!');
+                }
+                return readCondition(tape, nested + 1) && tape.takes(')');
             }
-            if (nested >= MOST_NESTED) {
+            if (!readSum(tape, nested) || !isComparison(tape.sign())) {
                 return false;
             }
-            tape.at++;
-            if (sign == '!') {
-                return readUnit(tape, nested + 1) && put(-'!');
-            }
-            return readCondition(tape, nested + 1) && tape.takes(')');
-        }
-
-        private boolean readComparison(Tape tape, int nested) {
-            if (!readSum(tape, nested)) {
-                return false;
-            }
-            int sign = tape.sign();
-            if (!isComparison(sign)) {
-                return false;
-            }
+            sign = tape.sign();
             tape.at++;
             return readSum(tape, nested) && put(-sign);
         }
@@ -920,7 +898,7 @@ public final class NameWall {
                 tape.at++;
                 return put(-sign);
             }
-            int number = tape.number(4);
+            int number = tape.number(4, 0, 9999);
             return number != NONE && put(number);
         }
     }
@@ -993,18 +971,18 @@ public final class NameWall {
             if (sign == '!') {
                 push(1 - right);
             } else {
-                push(joined(sign, pop(), right));
+                push(bounded(joined(sign, pop(), right)));
             }
         }
 
-        private static int joined(int sign, int left, int right) {
+        private static long joined(int sign, int left, int right) {
             switch (sign) {
                 case '+':
-                    return bounded(left + right);
+                    return left + right;
                 case '-':
-                    return bounded(left - right);
+                    return left - right;
                 case '*':
-                    return bounded((long) left * right);
+                    return (long) left * right;
                 case '/':
                     return right == 0 ? 0 : left / right;
                 case '=':
@@ -1228,14 +1206,6 @@ public final class NameWall {
             return !isName(name) || has(city.friends[name], other) ? 0 : city.given[name][WAGE];
         }
 
-        int depths() {
-            int depths = 0;
-            for (int name = 0; name < MOST_NAMES; name++) {
-                depths += now.depth[name];
-            }
-            return depths;
-        }
-
         int heard() {
             int heard = 0;
             for (int name = 0; name < MOST_NAMES && !now.fog; name++) {
@@ -1288,25 +1258,31 @@ public final class NameWall {
         }
 
         int depthBehind(int name, int heard) {
-            return stands(name) ? held(now.depth[name] + gets(name, heard) - lossNow(name, heard)) : 0;
+            if (!stands(name)) {
+                return 0;
+            }
+            int depth = now.depth[name];
+            return held(depth + gets(name, heard) - loss(name, depth, now.day, heardFor(name, heard)));
         }
 
-        /** The EVENING's wear, for all at once; who went GONE. */
-        int wear(int heard) {
-            int gone = 0;
+        void passEvening(Past past) {
+            int heard = heard();
+            int before = standing();
             for (int name = 0; name < MOST_NAMES; name++) {
                 deep[name] = depthBehind(name, heard);
-                gone |= stands(name) && deep[name] == 0 ? 1 << name : 0;
             }
+            int depths = 0;
             for (int name = 0; name < MOST_NAMES; name++) {
                 now.depth[name] = deep[name];
+                depths += deep[name];
             }
-            return gone;
+            past.write(now, before & ~standing(), Integer.bitCount(heard), depths);
+            now.dawn();
         }
 
         /**
-         * PACKED. NAMES that are LIKE fall into groups, each apart from all others: laid group by group, each SHOUT an HOUR
-         * further, round and round, SHOUTS fit into as many HOURS as the largest group and DROWN ask for.
+         * PACKED. NAMES that are LIKE fall into groups, each apart from all others: laid group by group, each SHOUT an
+         * HOUR further, round and round, SHOUTS fit into as many HOURS as the largest group and DROWN ask for.
          */
         int hoursNeeded() {
             int hours = 0;

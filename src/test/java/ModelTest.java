@@ -61,6 +61,10 @@ public final class ModelTest {
         if (random.nextInt(20) > 0) {
             tell(Texts.city(random), 0);
         }
+        for (int laws = random.nextInt(4); laws > 0; laws--) {
+            tell(Texts.law(random), 1);
+            hold(random.nextInt(model.laws.size() + 1) - 1);
+        }
         int length = 20 + random.nextInt(200);
         for (int i = 0; i < length && !isWrong; i++) {
             step();
@@ -100,6 +104,10 @@ public final class ModelTest {
         }
     }
 
+    private void hold(int law) {
+        due("law " + law, wall.law(law), model.law(law));
+    }
+
     private int name() {
         return random.nextInt(30) == 0 ? random.nextInt(-2, 12) : random.nextInt(Math.max(1, model.people.size()));
     }
@@ -136,6 +144,7 @@ public final class ModelTest {
             due("image", wall.image(), model.image());
         } else if (kind == 47 && random.nextInt(3) == 0) {
             due("back", wall.back(), model.back());
+            askOfAll(OPS);
         } else if (kind == 48) {
             int v = random.nextInt(-2, 102);
             due("fogs " + v, wall.fogs(v), model.fogs(v));
@@ -147,8 +156,7 @@ public final class ModelTest {
         } else if (kind == 50) {
             tell(random.nextInt(4) == 0 ? Texts.spoilt(Texts.law(random), random) : Texts.law(random), 1);
         } else if (kind == 51) {
-            int law = random.nextInt(-2, 5);
-            due("law " + law, wall.law(law), model.law(law));
+            hold(random.nextInt(-2, 5));
         } else if (kind == 52 && random.nextInt(6) == 0) {
             tell(random.nextInt(3) == 0 ? Texts.spoilt(Texts.city(random), random) : Texts.city(random), 0);
         } else if (kind == 53) {
