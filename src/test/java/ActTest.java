@@ -330,21 +330,23 @@ public final class ActTest {
 
     /** What the LOG tells at the IMAGE must come again, though other DAYS were written in between. */
     private static void imageLog() {
-        NameWall wall = Check.city("ni30;nw0v9");
+        NameWall wall = Check.city("ni30;nw0v9;ni2");
         wall.evening(1);
         wall.image();
         wall.undo();
-        wall.shout(1, 0, 0);
+        wall.shout(1, 2, 0);
         wall.evening(1);
+        CHECK.due("P18 nobody GONE", wall.log(0, 0), 0);
         CHECK.due("P18 HEARD", wall.log(0, 1), 1);
-        CHECK.due("P18 DEPTHS", wall.log(0, 2), 55);
+        CHECK.due("P18 DEPTHS: 28, 18, 9", wall.log(0, 2), 55);
         wall.back();
+        CHECK.due("P42 GONE", wall.log(0, 0), 4);
         CHECK.due("P42 not HEARD", wall.log(0, 1), 0);
-        CHECK.due("P42 DEPTHS", wall.log(0, 2), 46);
+        CHECK.due("P42 DEPTHS: 28, 18, 0", wall.log(0, 2), 46);
         wall.evening(60);
         wall.evening(60);
         CHECK.due("P42 the DAY", wall.back(), 1);
-        CHECK.due("P42 GONE", wall.log(0, 0), 0);
+        CHECK.due("P42 GONE again", wall.log(0, 0), 4);
         CHECK.due("P42 DEPTHS again", wall.log(0, 2), 46);
         CHECK.due("P42 one DAY", wall.count(13), 1);
     }
