@@ -1,4 +1,4 @@
-/** Promises 19 to 40 and Terms 3 at each bound that the document names. A comment quotes the sentence that is tested. */
+/** Promises 19 to 40, Terms 3 at each bound that the document names. A comment quotes the sentence that is tested. */
 public final class AskEdgeTest {
     private static final Check CHECK = new Check();
     private static final int NONE = NameWall.NONE;
@@ -12,6 +12,7 @@ public final class AskEdgeTest {
         keepRoom();
         keepPence();
         keepLoss();
+        keepByShouts();
         keepToday();
         ringSets();
         ringVoices();
@@ -81,6 +82,8 @@ public final class AskEdgeTest {
         wall.fog(true);
         wall.hoarse(1);
         CHECK.due("P19 in whatever weather", wall.alone(0), 2);
+        CHECK.due("P19 s 0: 3 by 1", Check.city("ni3;n", "y:1+s").alone(0), 3);
+        CHECK.due("P19 s 0: 3 by 1", Check.city("ni3;n", "y:1-s").alone(0), 3);
     }
 
     /** "a set of NAMES that STAND (bits; at least one)"; "NONE: there is none, no such set, no such what." */
@@ -178,6 +181,11 @@ public final class AskEdgeTest {
         CHECK.due("P20 no LOSS, no WAGES", Check.city("sr0;n;n;n").keep(7, 1), 0);
         NameWall hoarse = Check.city("sr1;n;nv9;nv1");
         hoarse.hoarse(1);
+        NameWall first = Check.city("sr1;ng1;ng1;nv0");
+        CHECK.due("P20 LIKE NAME 0, that nobody SHOUTS", first.keep(2, 0), 199);
+        NameWall quiet = Check.city("sr1;nv0g1;ng1;nv0");
+        CHECK.due("P20 LIKE NAME 0, that is SHOUTED", quiet.keep(2, 0), 909);
+        CHECK.due("P20 LIKE NAME 0, that is SHOUTED", quiet.keep(2, 1), 1);
         CHECK.due("P20 VOICE 0 of a HOARSE one", hoarse.keep(1, 0), 990);
         CHECK.due("P20 not its own VOICE", hoarse.keep(4, 0), 299);
         NameWall all = Check.city("sr9;nv0k3;nv2;nv2;nv2;nv3;nv3;ni1");
@@ -186,6 +194,29 @@ public final class AskEdgeTest {
         NameWall less = Check.city("sr9;nv0k3;nv2;nv2;nv2;nv3;nv2;ni1");
         less.evening(1);
         CHECK.due("P20 all five are 11", less.keep(1, 0), NONE);
+    }
+
+    /** "no less than its LOSS (by these SHOUTS, PENCE as now)": s is 0 to 5. */
+    private static void keepByShouts() {
+        int[] digits = {999999, 199999, 109999, 100999, 100099, 100009};
+        for (int s = 0; s <= 5; s++) {
+            NameWall wall = Check.city("sr1h5d1;nv0;nv0;nv0;nv0;nv0;nv0", "y:s=" + s + "?0;y:99");
+            for (int name = 0; name < 6; name++) {
+                CHECK.due("P20 just " + s + " SHOUTS of " + name, wall.keep(1 << name, 1), s);
+            }
+            CHECK.due("P20 of NAME 5, digits", wall.keep(32, 0) % 10, 9);
+            NameWall more = Check.city("sr1h5d1;nv0;nv0;nv0;nv0;nv0;nv0", "y:s>" + s + "?0;y:1");
+            CHECK.due("P20 more than " + s + " SHOUTS", more.keep(1, 1), s == 5 ? NONE : s + 1);
+            NameWall free = Check.city("sr0h" + Math.max(s, 1) + "d1;nw0;nw0;nw0;nw0;nw0;nw0");
+            CHECK.due("P20 room for " + s, free.keep(1, 0), digits[Math.max(s, 1)]);
+        }
+        CHECK.due("P20 nobody SHOUTS: s 0", Check.city("n;n;n", "y:5-5*s").keep(1, 1), 1);
+        NameWall rich = Check.city("n;nv9;nv9", "y:p");
+        CHECK.due("P20 p 5 by 9", rich.keep(1, 1), 1);
+        rich.shout(0, 1, 0);
+        rich.shout(2, 1, 0);
+        CHECK.due("P20 p 6 by 9, PENCE as now", rich.keep(1, 1), 1);
+        CHECK.due("P20 p 3 by 3, PENCE as now", rich.keep(2, 0), 199);
     }
 
     /** "today, as if nobody had SHOUTED, no FOG"; "PENCE as now". */
@@ -261,6 +292,7 @@ public final class AskEdgeTest {
         CHECK.due("P22 name -1", wall.price(-1, 0), NONE);
         CHECK.due("P22 name 3", wall.price(3, 0), NONE);
         CHECK.due("P22 the last NAME", wall.price(2, 0), 1);
+        CHECK.due("P22 by NAME 0", wall.price(2, 1), 1);
         CHECK.due("P22 what -1", wall.price(0, -1), NONE);
         CHECK.due("P22 what 2", wall.price(0, 2), NONE);
         CHECK.due("P22 whatever PENCE it has", wall.price(0, 0), 1);
@@ -361,6 +393,7 @@ public final class AskEdgeTest {
             city.append(";ta").append(ties - 1).append('b').append(ties);
             CHECK.due("P25 eight by " + ties, Check.city(city.toString()).parts(), 8 - ties);
         }
+        CHECK.due("P25 TIED by NAME 0, GONE", beheaded("ni1;n;n;t;tb2").parts(), 2);
         CHECK.due("P25 TIED by a GONE one", beheaded("n;ni1;n;t;ta1b2").parts(), 2);
     }
 
@@ -375,10 +408,11 @@ public final class AskEdgeTest {
         CHECK.due("P26 a ring: as many parts", Check.city("n;n;n;t;ta1b2;tb2").bridges(), 0);
         CHECK.due("P26 a GONE one is none", beheaded("n;ni1;n;t;ta1b2").bridges(), 0);
         CHECK.due("P26 its ring is broken", beheaded("n;n;n;ni1;t;ta1b2;ta2b3;tb3").bridges(), 2);
+        CHECK.due("P26 NAME 0", Check.city("n;n;n;t;tb2").bridges(), 1);
         CHECK.due("P26 NAME 7", Check.city("n;n;n;n;n;n;n;n;ta6b7;ta7b5").bridges(), 128);
     }
 
-    /** "of all pairs of two who STAND in unlike parts the one whose VOICES together are the greatest (of several the least)". */
+    /** "of all pairs who STAND in unlike parts the one whose VOICES are the greatest (of several the least)". */
     private static void bonds() {
         CHECK.due("P27 no CITY", new NameWall().bond(), NONE);
         CHECK.due("P27 all GONE", beheaded("ni1;ni1").bond(), NONE);
@@ -389,6 +423,7 @@ public final class AskEdgeTest {
         CHECK.due("P27 the greatest VOICES, the last pair", Check.city("nv8;nv8;nv8;nv8;nv8;nv8;nv9;nv9").bond(), 67);
         CHECK.due("P27 of several the least", Check.city("nv8;nv9;nv9;nv9").bond(), 12);
         CHECK.due("P27 the loudest are in one part", Check.city("nv1;nv9;nv9;t;ta1b2;nv1").bond(), 13);
+        CHECK.due("P27 the loudest are with NAME 0", Check.city("nv0;nv5;nv9;tb2").bond(), 12);
         CHECK.due("P27 GONE ones are none", beheaded("nv9i1;nv1;nv2").bond(), 12);
         CHECK.due("P27 not TIED, but in one part", Check.city("nv9;n;nv9;nv0;t;ta1b2").bond(), 3);
     }
@@ -561,7 +596,7 @@ public final class AskEdgeTest {
         CHECK.due("P32 no third", free.rests(0, 2), NONE);
     }
 
-    /** "behind n (0 .. 30) DAYS, if a VOICE v (0 .. 9) SHOUTS it each DAY, at a chance (0 .. 100) of FOG"; "out of bounds". */
+    /** "behind n (0 .. 30) DAYS, if a VOICE v (0 .. 9) SHOUTS it each DAY, at a chance (0 .. 100) of FOG". */
     private static void oddsBounds() {
         int all = 1000000000;
         NameWall wall = Check.city("sr1c99;ni30;ni29;ni31;ni1");
@@ -627,13 +662,21 @@ public final class AskEdgeTest {
         now.shout(0, 1, 0);
         CHECK.due("P33 p as now", now.odds(0, 1, 4, 0), 0);
         CHECK.due("P33 p as now", now.odds(0, 1, 5, 0), all);
+        NameWall fog = Check.city("ni1;ni2;n", "y:1+s");
+        CHECK.due("P33 s 0 in FOG: 1 less 1", fog.odds(0, 1, 9, 100), 0);
+        CHECK.due("P33 s 0 in FOG: 2 less 1", fog.odds(1, 1, 9, 100), all);
+        CHECK.due("P33 s 1 without: 2 and 0 less 2", fog.odds(1, 1, 0, 0), 0);
+        NameWall goesOn = Check.city("n;n", "y:y=7?99;y:0");
+        goesOn.evening(5);
+        CHECK.due("P33 up to DAY 6", goesOn.odds(0, 2, 0, 0), all);
+        CHECK.due("P33 up to DAY 7", goesOn.odds(0, 3, 0, 0), 0);
         NameWall deep = Check.city("sr0c99;ni99;n");
         CHECK.due("P33 the greatest DEPTH", deep.odds(0, 30, 9, 50), all);
         CHECK.due("P33 the greatest LOSS", Check.city("sc99;ni99;n", "y:9999").odds(0, 1, 0, 0), 0);
         CHECK.due("P33 the greatest LOSS and a VOICE", Check.city("sc99;ni99;n", "y:9999").odds(0, 1, 1, 0), all);
     }
 
-    /** "the least VOICE (0 .. 99) by which a NAME is no less deep behind one EVENING (s 1)"; "NONE: no such one, GONE." */
+    /** "the least VOICE (0 .. 99) by which a NAME is no less deep (s 1)"; "NONE: no such one, GONE." */
     private static void needs() {
         NameWall wall = Check.city("sr0;nk3;n;ni1k1");
         CHECK.due("P34 name -1", wall.need(-1), NONE);
@@ -715,6 +758,9 @@ public final class AskEdgeTest {
         CHECK.due("P39 1 of a LIKE one", wall.helped(), 128 | 8 | 4);
         wall.fog(true);
         CHECK.due("P39 FOG", wall.helped(), 0);
+        NameWall first = Check.city("n;nw0");
+        first.shout(1, 0, 0);
+        CHECK.due("P39 NAME 0", first.helped(), 1);
         wall.fog(false);
         CHECK.due("P39 no FOG", wall.helped(), 140);
         wall.hoarse(2);

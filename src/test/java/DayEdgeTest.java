@@ -1,8 +1,8 @@
 import java.math.BigInteger;
 
 /**
- * Promises 6 to 18 and 41 to 43, Terms 2 and 4, at each bound that the document names. A comment quotes the sentence that
- * is tested.
+ * Promises 6 to 18 and 41 to 43, Terms 2 and 4, at each bound that the document names. A comment quotes the sentence
+ * that is tested.
  */
 public final class DayEdgeTest {
     private static final Check CHECK = new Check();
@@ -240,7 +240,7 @@ public final class DayEdgeTest {
         }
     }
 
-    /** "gets the VOICE of each by whom it was HEARD (0 of a HOARSE one) and 1 for each other NAME HEARD and LIKE it". */
+    /** "the VOICE of each by whom it was HEARD (0 of a HOARSE one) and 1 for each other NAME HEARD and LIKE it". */
     private static void gets() {
         // 1, 2, 3 are LIKE, 4 is LIKE nobody else, 0 and 5 have LIKE 0.
         NameWall wall = Check.city("sd4h6;nv9w0;nv0w0g4;nv2w0g4;nv4w0g4;nv8w0g3;nv1w0");
@@ -439,7 +439,7 @@ public final class DayEdgeTest {
         CHECK.due("P15 it stays", wall.count(11), 49);
     }
 
-    /** "LOG: .. (the latest 60 DAYS)"; "LOG, too" is UNDONE. DEPTHS are 99 less the DAY here; NAME 1 goes GONE at first. */
+    /** "(the latest 60 DAYS)"; "LOG, too" is UNDONE. DEPTHS are 99 less the DAY here; NAME 1 goes GONE at first. */
     private static void loggedDays() {
         NameWall wall = Check.city("sr1c99;ni99;ni1");
         CHECK.due("P18 the empty LOG", wall.log(0, 2), NONE);
@@ -758,6 +758,11 @@ public final class DayEdgeTest {
                 cold.centuries(1, coldSeed);
                 CHECK.due("P16 draw " + drawn + " below COLDS " + v, cold.name(1, 5), drawn < v ? 20 : 27);
             }
+            NameWall voiceless = Check.city("sr0h1d2;nv7;nv0;t");
+            voiceless.colds(99);
+            voiceless.hoarse(0);
+            voiceless.centuries(1, coldSeed);
+            CHECK.due("P16 who is HOARSE stays so by draw " + drawn, voiceless.name(1, 5), 20);
             NameWall stays = Check.city("sr0h1d2;n;n;t");
             stays.fog(true);
             stays.centuries(1, fogSeed);
@@ -770,8 +775,8 @@ public final class DayEdgeTest {
 
     /** "x times .. and .. (64 bits, going round); a draw of m: (x shifted right by 33, without sign) modulo m." */
     private static void drawsGoRound() {
-        long[] seeds = {0, 1, -1, 2, Long.MAX_VALUE, Long.MIN_VALUE, Long.MIN_VALUE + 1, 1L << 33, 1L << 32, -(1L << 33),
-            6364136223846793005L, -1442695040888963407L, 123456789012345678L};
+        long[] seeds = {0, 1, -1, 2, Long.MAX_VALUE, Long.MIN_VALUE, Long.MIN_VALUE + 1, 1L << 33, 1L << 32,
+            -(1L << 33), 6364136223846793005L, -1442695040888963407L, 123456789012345678L};
         for (long seed : seeds) {
             for (int hours = 1; hours <= 6; hours++) {
                 NameWall wall = Check.city("sr0d1h" + hours + ";nv0;nv0;t");
@@ -790,7 +795,7 @@ public final class DayEdgeTest {
         }
     }
 
-    /** "each who STANDS and has not SHOUTED, by numbers: for the lowest that it is TIED to and that STANDS, if there is one". */
+    /** "who STANDS and has not SHOUTED: for the lowest that it is TIED to and that STANDS, if there is one". */
     private static void whoDraws() {
         for (long seed = -20; seed < 20; seed++) {
             // 0 is GONE on DAY 1, 1 and 5 are TIED to it first, 2 to nobody, 6 to it alone; 4 SHOUTS by hand.

@@ -2,10 +2,10 @@ import java.util.NoSuchElementException;
 
 /**
  * All that a wall tells, as one text. What it keeps for later (the TAPE, LAWS, ACTS, the IMAGE) shows only when it is
- * used: that comes last and uses the wall up, so that a picture is taken of a wall once. It takes at most 340 calls.
+ * used: that comes last and uses the wall up, so that a picture is taken of a wall once. It takes some 300 calls.
  */
 final class Picture {
-    private static final int[] LOGGED = {0, 1, 19, 20, 59, 60};
+    private static final int[] LOGGED = {0, 1, 58, 59, 60};
 
     private final NameWall wall;
     private final int names;
@@ -56,7 +56,10 @@ final class Picture {
             tell("square " + what, wall.square(what));
         }
         for (int name = 0; name < names; name++) {
-            askOf(name);
+            // Of more than six NAMES the first two and the last two must do.
+            if (names <= 6 || name < 2 || name >= names - 2) {
+                askOf(name);
+            }
         }
         for (int i : LOGGED) {
             tell("log " + i, wall.log(i, 0), wall.log(i, 1), wall.log(i, 2));
@@ -89,7 +92,7 @@ final class Picture {
     private void useActs() {
         int left = wall.undo();
         for (int i = 0; i < 45 && left >= 0; i++) {
-            tell("undone " + left, wall.count(5));
+            tell("undone " + left, left < 12 ? wall.count(5) : 0);
             left = wall.undo();
         }
         tellDay("behind all ACTS");

@@ -33,11 +33,20 @@ public final class RefusedTest {
         everywhere(new RefusedTest("no CITY, a CITY on the TAPE", RefusedTest::bareWithCity));
         everywhere(new RefusedTest("a busy DAY", RefusedTest::busy));
         everywhere(new RefusedTest("all is full", RefusedTest::full));
+        everywhere(new RefusedTest("the last DAY", () -> late(39)));
+        everywhere(new RefusedTest("no IMAGE", RefusedTest::plain));
         everywhere(new RefusedTest("all GONE", RefusedTest::gone));
         noCity(new RefusedTest("no CITY, a LAW on the TAPE", RefusedTest::bareWithLaw));
         noCity(new RefusedTest("no CITY, a CITY on the TAPE", RefusedTest::bareWithCity));
         onBusyDay(new RefusedTest("a busy DAY", RefusedTest::busy));
         whenFull(new RefusedTest("all is full", RefusedTest::full));
+        onLastDays();
+        withoutImage(new RefusedTest("no IMAGE", RefusedTest::plain));
+        behindBack(new RefusedTest("behind BACK", () -> {
+            NameWall wall = busy();
+            wall.back();
+            return wall;
+        }));
         whenGone(new RefusedTest("all GONE", RefusedTest::gone));
         texts();
         CHECK.end();
@@ -93,7 +102,7 @@ public final class RefusedTest {
         return wall;
     }
 
-    /** 240 bytes on the TAPE, four LAWS, 12 DENTS, 40 ACTS, 60 DAYS of LOG, the last DAY; all eight STAND. */
+    /** 240 bytes on the TAPE, four LAWS, 12 DENTS, 40 ACTS, 60 DAYS of LOG; all eight STAND. */
     private static NameWall full() {
         NameWall wall = Check.city("sr0h1d1;nw0p0;nw9p0;n;n;n;n;n;n;tb7");
         for (int law = 0; law < 4; law++) {
@@ -101,15 +110,33 @@ public final class RefusedTest {
         }
         wall.law(-1);
         for (int dents = 0; dents < 12; dents++) {
-            wall.dent(dents % 3, dents % 4, false);
+            wall.dent(dents % 3, dents % 2, false);
         }
-        for (int evenings = 0; evenings < 166; evenings++) {
-            wall.evening(60);
-        }
+        wall.evening(60);
         wall.image();
         wall.evening(39);
         wall.shout(0, 1, 0);
         Check.put(wall, "y:5" + " ".repeat(237));
+        return wall;
+    }
+
+    private static NameWall late(int evenings) {
+        NameWall wall = Check.city("sr0;n;n;t");
+        for (int sixties = 0; sixties < 166; sixties++) {
+            wall.evening(60);
+        }
+        wall.image();
+        wall.evening(evenings);
+        return wall;
+    }
+
+    /** 230 bytes on the TAPE, ACTS but no IMAGE. */
+    private static NameWall plain() {
+        NameWall wall = Check.city("sr1;ni5w0;nw3p2;n;tb2");
+        wall.evening(2);
+        wall.shout(0, 1, 1);
+        wall.fog(true);
+        Check.put(wall, "n;n" + " ".repeat(227));
         return wall;
     }
 
@@ -282,7 +309,8 @@ public final class RefusedTest {
         test.refused("P10 a GONE one is SHOUTED", NONE, wall -> wall.shout(5, 4, 0));
         test.refused("P10 it has SHOUTED", NONE, wall -> wall.shout(0, 5, 0));
         test.refused("P10 the first HOUR that is not", NONE, wall -> wall.shout(5, 3, 3));
-        test.refused("P10 too few PENCE", NONE, wall -> wall.shout(5, 2, 0));
+        test.refused("P10 too few PENCE: 1 of 0", NONE, wall -> wall.shout(5, 2, 0));
+        test.refused("P10 too few PENCE: 9 of 3", NONE, wall -> wall.shout(2, 5, 0));
         test.refused("P11 it is so", FALSE, wall -> asNumber(wall.fog(true)));
         test.refused("P12 it is", FALSE, wall -> asNumber(wall.hoarse(1)));
         test.refused("P12 GONE", FALSE, wall -> asNumber(wall.hoarse(4)));
@@ -313,7 +341,7 @@ public final class RefusedTest {
 
     private static void whenFull(RefusedTest test) {
         NameWall full = full();
-        int[] counts = {8, 1, 4, 240, -1, 9999, 0, 255, 1, 1, 0, 0, 12, 60, 40};
+        int[] counts = {8, 1, 4, 240, -1, 99, 0, 255, 1, 1, 0, 0, 12, 60, 40};
         for (int what = 0; what < counts.length; what++) {
             CHECK.due("all is full: count " + what, full.count(what), counts[what]);
         }
@@ -326,15 +354,39 @@ public final class RefusedTest {
         test.refused("P10 too few PENCE by 9", NONE, wall -> wall.shout(1, 0, 0));
         test.refused("P10 HOUR 1 of one", NONE, wall -> wall.shout(2, 3, 1));
         test.refused("P11 it is so", FALSE, wall -> asNumber(wall.fog(false)));
-        test.refused("P13 beyond 9,999", NONE, wall -> wall.evening(1));
-        test.refused("P13 far beyond 9,999", NONE, wall -> wall.evening(60));
-        test.refused("P16 beyond 9,999", NONE, wall -> wall.centuries(1, 1));
-        test.refused("P16 far beyond 9,999", NONE, wall -> wall.centuries(60, 1));
         test.refused("P19 not within 200", NONE, wall -> wall.alone(0));
         test.refused("P20 eight STAND", HIDDEN, wall -> wall.keep(1, 0));
         test.refused("P20 eight STAND", HIDDEN, wall -> wall.keep(255, 1));
         test.refused("P21 seven", NONE, wall -> wall.ring(127));
         test.refused("P28 there are 12", NONE, wall -> wall.dent(0, 4, true));
+    }
+
+    private static void onLastDays() {
+        RefusedTest near = new RefusedTest("DAY 9,990", () -> late(30));
+        CHECK.due("DAY 9,990", late(30).count(5), 9990);
+        near.refused("P13 one beyond 9,999", NONE, wall -> wall.evening(10));
+        near.refused("P13 far beyond 9,999", NONE, wall -> wall.evening(60));
+        near.refused("P16 one beyond 9,999", NONE, wall -> wall.centuries(10, 1));
+        near.refused("P16 far beyond 9,999", NONE, wall -> wall.centuries(60, 1));
+        RefusedTest test = new RefusedTest("the last DAY", () -> late(39));
+        CHECK.due("the last DAY", late(39).count(5), 9999);
+        test.refused("P13 beyond 9,999", NONE, wall -> wall.evening(1));
+        test.refused("P13 far beyond 9,999", NONE, wall -> wall.evening(60));
+        test.refused("P16 beyond 9,999", NONE, wall -> wall.centuries(1, 1));
+        test.refused("P16 far beyond 9,999", NONE, wall -> wall.centuries(60, 1));
+    }
+
+    private static void withoutImage(RefusedTest test) {
+        test.refused("P2 eleven bytes onto 230", NONE, wall -> wall.feed(-1, -1, 0xffffff, 0, 0));
+        test.refused("P2 twenty bytes onto 230", NONE, wall -> wall.feed(-1, -1, -1, -1, -1));
+        test.refused("P3 end beyond 230", FALSE, wall -> asNumber(wall.end(231)));
+        test.refused("P42 no IMAGE", NONE, wall -> wall.back());
+    }
+
+    private static void behindBack(RefusedTest test) {
+        test.refused("P17 none", NONE, wall -> wall.undo());
+        test.refused("P17 none, twice", 2 * NONE, wall -> wall.undo() + wall.undo());
+        test.refused("P42 it is so again", 0, wall -> wall.back() - wall.count(5));
     }
 
     private static void whenGone(RefusedTest test) {

@@ -25,6 +25,7 @@ public final class TextEdgeTest {
         nesting();
         numberBounds();
         worths();
+        conditions();
         takenCities();
         takenLaws();
         CHECK.end();
@@ -500,7 +501,7 @@ public final class TextEdgeTest {
         loss("y:5/[0-1]+9", 4);
     }
 
-    /** "WORTH: the SUM of the first CLAUSE whose CONDITION holds (or has none), 0 without." "LOSS held within 0 .. 99". */
+    /** "the SUM of the first CLAUSE whose CONDITION holds (or has none), 0 without"; "held within 0 .. 99". */
     private static void worths() {
         loss("y:d=20?1", 1);
         loss("y:d=21?1", 0);
@@ -519,6 +520,51 @@ public final class TextEdgeTest {
         loss("y:100", 99);
         loss("y:9999*9999", 99);
         loss("y:0-9999*9999", 0);
+    }
+
+    private static void holds(String condition, boolean is) {
+        loss("y:" + condition + "?7;y:8", is ? 7 : 8);
+    }
+
+    /** "CONDITION: TRUTHS with | between; TRUTH: UNITS with & between; UNIT: ! UNIT, ( CONDITION ), or SUM .. SUM." */
+    private static void conditions() {
+        for (int bits = 0; bits < 8; bits++) {
+            boolean one = (bits & 1) > 0;
+            boolean two = (bits & 2) > 0;
+            boolean three = (bits & 4) > 0;
+            String a = one ? "r=7" : "r=6";
+            String b = two ? "k<3" : "k<2";
+            String c = three ? "d>19" : "d>20";
+            holds(a, one);
+            holds("!" + a, !one);
+            holds("!!" + a, one);
+            holds("!!!!!!" + a, one);
+            holds("!!!!!" + a, !one);
+            holds("(" + a + ")", one);
+            holds("!(" + a + ")", !one);
+            holds(a + "&" + b, one && two);
+            holds(a + "|" + b, one || two);
+            holds("!" + a + "&" + b, !one && two);
+            holds("!" + a + "|" + b, !one || two);
+            holds(a + "&!" + b, one && !two);
+            holds("!(" + a + "&" + b + ")", !(one && two));
+            holds("!(" + a + "|" + b + ")", !(one || two));
+            holds(a + "|" + b + "&" + c, one || two && three);
+            holds(a + "&" + b + "|" + c, one && two || three);
+            holds("(" + a + "|" + b + ")&" + c, (one || two) && three);
+            holds(a + "&(" + b + "|" + c + ")", one && (two || three));
+            holds(a + "|" + b + "|" + c, one || two || three);
+            holds(a + "&" + b + "&" + c, one && two && three);
+        }
+        holds("7=r", true);
+        holds("r+1=2*k*2", true);
+        holds("d-r-k<11", false);
+        holds("d-r-k>10", true);
+        holds("d-[r-k]=15", true);
+        holds("[d-r]*k=26", true);
+        holds("d/k/r=1", true);
+        holds("d/k*r=70", true);
+        holds("k+r*k-d/3=10", true);
     }
 
     /** "(DAY 0; all that was of another one, DENTS, too, is gone but LAWS, which holds, FOGS, COLDS)". */
@@ -553,6 +599,20 @@ public final class TextEdgeTest {
         CHECK.due("P5 DEPTHS are as told", wall.name(0, 5), 20);
         CHECK.noSuch("P5 the third NAME is gone", wall, 2, 0);
         CHECK.due("P5 a first IMAGE of it", wall.image(), 0);
+        wall.end(0);
+        Check.put(wall, "sr9c1h1d1;ni1g1;ni1g1;ni1w0;t;tb2;ta1b2");
+        CHECK.due("P5 three, TIED and LIKE", wall.text(0), 3);
+        Check.put(wall, "n;nw0;nw0");
+        CHECK.due("P5 three, neither TIED nor LIKE", wall.text(0), 3);
+        int[] square = {2, 40, 4, 2};
+        for (int what = 0; what < 4; what++) {
+            CHECK.due("P5 the SQUARE of the other one is gone", wall.square(what), square[what]);
+            CHECK.due("P5 TIES of the other one are gone", wall.friends(what), what < 3 ? 0 : NONE);
+        }
+        CHECK.due("P5 TIES of the other one are gone", wall.count(1), 0);
+        wall.shout(2, 1, 3);
+        CHECK.due("P5 LIKE ones of the other one are gone", wall.helped(), 2);
+        wall.image();
         Check.put(wall, "n;n");
         CHECK.due("P5 the same text again", wall.text(0), 2);
         CHECK.due("P5 is another CITY", wall.back(), NONE);
