@@ -423,6 +423,9 @@ public final class AskEdgeTest {
         CHECK.due("P27 the greatest VOICES, the last pair", Check.city("nv8;nv8;nv8;nv8;nv8;nv8;nv9;nv9").bond(), 67);
         CHECK.due("P27 of several the least", Check.city("nv8;nv9;nv9;nv9").bond(), 12);
         CHECK.due("P27 the loudest are in one part", Check.city("nv1;nv9;nv9;t;ta1b2;nv1").bond(), 13);
+        NameWall longest = Check.city("n;n;n;n;n;n;n;n;ta6b5;ta5b4;ta4b3;ta3b2;ta2b1;ta1b0;tb7");
+        CHECK.due("P27 the longest way from 6 to 7", longest.bond(), NONE);
+        CHECK.due("P25 the longest way from 6 to 7", longest.parts(), 1);
         CHECK.due("P27 the loudest are with NAME 0", Check.city("nv0;nv5;nv9;tb2").bond(), 12);
         CHECK.due("P27 GONE ones are none", beheaded("nv9i1;nv1;nv2").bond(), 12);
         CHECK.due("P27 not TIED, but in one part", Check.city("nv9;n;nv9;nv0;t;ta1b2").bond(), 3);
